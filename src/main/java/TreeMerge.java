@@ -564,9 +564,9 @@ public final class TreeMerge {
             }
         }
 
+        /** The head is ahead of the first token. */
         void rewind() {
             stop = 0;
-            advance();
         }
 
         void advance() {
@@ -676,6 +676,7 @@ public final class TreeMerge {
             kinds = 0;
             items = 0;
             text.rewind();
+            text.advance();
             for (int rule = 0; rule <= MAX_KINDS; rule++) {
                 int fault = readRule(text);
                 if (fault != NONE) {
@@ -879,7 +880,13 @@ public final class TreeMerge {
         }
 
         void add(int id, int up, int kind, long word) {
-            insert(size, id, up, kind, word);
+            if (size < MAX_STANDING) {
+                ids[size] = id;
+                ups[size] = up;
+                kinds[size] = kind;
+                words[size] = word;
+                size++;
+            }
         }
 
         void insert(int at, int id, int up, int kind, long word) {
@@ -939,6 +946,7 @@ public final class TreeMerge {
         int readFrom(Text text, Grammar rules) {
             clear();
             text.rewind();
+            text.advance();
             int depth = 1;
             int up = NONE;
             for (int i = 0; i <= MAX_TREE; i++) {
@@ -1466,7 +1474,7 @@ public final class TreeMerge {
         }
 
         boolean has(int n) {
-            return placeOf(n) != NONE;
+            return n >= 0 && n < MAX_NUMBERS && places[n] != NONE;
         }
 
         int kindOf(int n) {
@@ -1511,10 +1519,13 @@ public final class TreeMerge {
 
         /** 1 if x is ahead of y under up, -1 if y is ahead of x, 0 if this side doesn't say. */
         int ordering(int up, int x, int y) {
-            if (!has(x) || !has(y) || upOf(x) != up || upOf(y) != up) {
+            boolean known = x >= 0 && x < MAX_NUMBERS && y >= 0 && y < MAX_NUMBERS;
+            int i = known ? places[x] : NONE;
+            int j = known ? places[y] : NONE;
+            if (i == NONE || j == NONE || tree.ups[i] != up || tree.ups[j] != up) {
                 return 0;
             }
-            return placeOf(x) < placeOf(y) ? 1 : -1;
+            return i < j ? 1 : -1;
         }
     }
 
@@ -1534,10 +1545,13 @@ public final class TreeMerge {
         private final int[] ups = new int[MAX_NUMBERS];
         private final long[] words = new long[MAX_NUMBERS];
         private boolean quarrelled;
-        /** The children that are being put in order, and how many of those left are to be ahead of each. */
+        /** The children that are being put in order. */
         private final int[] children = new int[MAX_STANDING];
-        private final int[] waits = new int[MAX_STANDING];
         private int childrenSize;
+        /** 1 where the one of the row is to be ahead of the one of the column. */
+        private final int[] ahead = new int[MAX_STANDING * MAX_STANDING];
+        /** How many of those left are to be ahead of each; NONE for what is no more left. */
+        private final int[] waits = new int[MAX_STANDING];
 
         /** Whether there is no quarrel; then the result stands. */
         boolean run(Settled settled, Grammar rules, Kids kids) {
@@ -1555,7 +1569,12 @@ public final class TreeMerge {
                 findCrowd();
             }
             if (!quarrelled) {
-                orderAll(rules, kids);
+                listOutermost();
+                for (int n = 0; n < MAX_NUMBERS; n++) {
+                    if (stands[n] == 1) {
+                        orderChildren(n, rules, kids);
+                    }
+                }
             }
             if (!quarrelled) {
                 result.arrange(list, rules);
@@ -1681,16 +1700,11 @@ public final class TreeMerge {
             }
         }
 
-        private void orderAll(Grammar rules, Kids kids) {
+        private void listOutermost() {
             list.clear();
             int root = one.outermost();
             if (isStanding(root)) {
                 list.add(root, NONE, kinds[root], words[root]);
-            }
-            for (int n = 0; n < MAX_NUMBERS; n++) {
-                if (stands[n] == 1) {
-                    orderChildren(n, rules, kids);
-                }
             }
         }
 
@@ -1705,7 +1719,7 @@ public final class TreeMerge {
             }
             boolean inSet = rules.isSet(kinds[up]);
             kids.clear();
-            if ((!inSet && !countWaits(up)) || !listInOrder(up, inSet, kids)) {
+            if (!countWaits(up, inSet) || !listInOrder(up, kids)) {
                 mark(up, 5);
                 return;
             }
@@ -1717,19 +1731,18 @@ public final class TreeMerge {
             }
         }
 
-        /** False if the sides contradict each other where the base doesn't say. */
-        private boolean countWaits(int up) {
+        /** False if the sides contradict each other where the base doesn't say; in a set nobody says. */
+        private boolean countWaits(int up, boolean inSet) {
             for (int i = 0; i < childrenSize; i++) {
-                for (int j = i + 1; j < childrenSize; j++) {
-                    int said = ordering(up, children[i], children[j]);
+                for (int j = 0; j < i; j++) {
+                    int said = inSet ? 0 : ordering(up, children[i], children[j]);
                     if (said == CONTRADICTION) {
                         return false;
                     }
-                    if (said == 1) {
-                        waits[j]++;
-                    } else if (said == -1) {
-                        waits[i]++;
-                    }
+                    ahead[i * MAX_STANDING + j] = said == 1 ? 1 : 0;
+                    ahead[j * MAX_STANDING + i] = said == -1 ? 1 : 0;
+                    waits[j] += ahead[i * MAX_STANDING + j];
+                    waits[i] += ahead[j * MAX_STANDING + i];
                 }
             }
             return true;
@@ -1752,9 +1765,8 @@ public final class TreeMerge {
         }
 
         /** False if at some time each of those left waits for another. */
-        private boolean listInOrder(int up, boolean inSet, Kids kids) {
-            int all = childrenSize;
-            for (int step = 0; step < all; step++) {
+        private boolean listInOrder(int up, Kids kids) {
+            for (int step = 0; step < childrenSize; step++) {
                 int i = nextFree();
                 if (i == NONE) {
                     return false;
@@ -1762,10 +1774,10 @@ public final class TreeMerge {
                 int n = children[i];
                 list.add(n, up, kinds[n], words[n]);
                 kids.add(kinds[n], words[n]);
-                dropChild(i);
-                for (int j = 0; j < childrenSize && !inSet; j++) {
-                    if (ordering(up, n, children[j]) == 1) {
-                        waits[j]--;
+                waits[i] = NONE;
+                for (int j = 0; j < childrenSize; j++) {
+                    if (waits[j] > 0) {
+                        waits[j] -= ahead[i * MAX_STANDING + j];
                     }
                 }
             }
@@ -1782,12 +1794,6 @@ public final class TreeMerge {
                 }
             }
             return best;
-        }
-
-        private void dropChild(int i) {
-            childrenSize--;
-            children[i] = children[childrenSize];
-            waits[i] = waits[childrenSize];
         }
     }
 

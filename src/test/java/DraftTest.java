@@ -123,8 +123,10 @@ public final class DraftTest {
         C.due("take 2 again", x.take(2), false);
         C.due("take 1 now", x.take(1), true);
         C.due("what is left", children(x, 0), "3 4");
+        C.due("take the last", x.take(6), true);
+        C.due("take the last again", x.take(6), false);
+        C.due("it is no more in it", x.of(12, 6, 0), -1);
         C.due("take 5", x.take(5), true);
-        C.due("take 6", x.take(6), true);
         C.due("take 4", x.take(4), true);
         C.due("take 3", x.take(3), true);
         C.due("take the outermost, though alone", x.take(0), false);

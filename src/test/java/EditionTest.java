@@ -85,6 +85,8 @@ public final class EditionTest {
         matched(MIX, "doc(a)", "doc(b)", 2, "0 x", "4 1 4");
         matched(MIX, "doc(b{x})", "doc(s(b{x}))", 3, "0 x 1", "3 1 2");
         matched(PARS, "doc(par(par(par(par(par)))))", "doc(par par par par par)", 6, "0 1 2 3 4 5", "4 1 0");
+        matched(PARS, "doc(par{x})", "doc(par{y} par{z})", 3, "0 1 x", "3 1 2");
+        matched("d set d ;", "d(d{a} d{b}(d))", "d(d{b})", 2, "0 2", "4 1 4");
         // none last: the first of a goes with the only one of b
         matched(PARS, "doc(par{x} par{y})", "doc(par{z})", 2, "0 1", "3 1 2");
         matched(PARS, "doc(par{x} par{y})", "doc(par{y})", 2, "0 2", "2 1 2");

@@ -197,6 +197,99 @@ public final class MergeTest {
         C.due("but one that comes from the other", x.merge(e, 0), e);
     }
 
+    /** What is led to one that is gone is gone ahead of all further quarrels, and isn't counted. */
+    private static void goneLed() {
+        TreeMerge x = Calls.with("doc = par* tags* ; par = par* tags* ; tags set tag ; tag leaf ;");
+        // doc 0, par 1, par{k} 2, tags 3
+        Calls.first(x, "doc(par par{k} tags)");
+        C.due("numbers", Calls.numbers(x, 0), "0 1 2 3");
+        int a = edit(x, 0, "m3 1 0", "p3 0 3t");
+        int b = edit(x, 0, "t1", "p3 0 3t");
+        refused("moved into what is taken", x, x.merge(a, b), "1001");
+        x.settle(1, 1, a);
+        refused("it stands, and so do the likes", x, x.merge(a, b), "7003");
+        x.settle(1, 1, b);
+        stands("it is gone, with them", x, x.merge(a, b), "doc(par{k})");
+        String[] many = new String[21];
+        java.util.Arrays.fill(many, "p2 0 1");
+        many[0] = "m2 1 0";
+        int c = edit(x, 0, many);
+        java.util.Arrays.fill(many, "p0 0 1");
+        many[0] = "t1";
+        int d = edit(x, 0, many);
+        C.due("without the settled one that is gone 42 would stand", x.unsettle(), 1);
+        refused("and more", x, x.merge(d, c), "1001");
+        x.settle(1, 1, c);
+        refused("more than 40", x, x.merge(d, c), "8000");
+        x.settle(1, 1, d);
+        C.due("they are gone", x.node(x.merge(d, c), -1), 22);
+    }
+
+    private static void apart() {
+        TreeMerge x = Calls.with(PARS);
+        Calls.first(x, "doc(par{a})");
+        Calls.first(x, "doc(par{b})");
+        int a = edit(x, 0, "r1c");
+        int b = edit(x, 0, "r0d");
+        stands("of the one tree", x, x.merge(a, b), "doc{d}(par{c})");
+        int c = edit(x, 1, "r3c");
+        int d = edit(x, 1, "r2d");
+        stands("of the other tree", x, x.merge(c, d), "doc{d}(par{c})");
+        C.due("its numbers", Calls.numbers(x, 7), "2 3");
+        C.due("its outermost one's word", x.of(7, 2, 5), d);
+    }
+
+    /** Nothing is left of what was settled, for edition 0 neither. */
+    private static void unsettling() {
+        TreeMerge x = Calls.with(PARS);
+        Calls.first(x, "doc(par{a})");
+        int a = edit(x, 0, "r1b", "r0k");
+        int b = edit(x, a, "r1c", "r0l");
+        refused("renamed since", x, x.back(a, b), "2000 2001");
+        x.settle(0, 2, 0);
+        x.settle(1, 2, 0);
+        x.settle(0, 1, 0);
+        C.due("settled", x.count(5), 3);
+        C.due("unsettle", x.unsettle(), 3);
+        refused("as before", x, x.back(a, b), "2000 2001");
+        x.settle(0, 1, 0);
+        x.settle(1, 2, 0);
+        C.due("settled", x.count(5), 2);
+        refused("one is left", x, x.back(a, b), "2000");
+        TreeMerge y = Calls.with(PARS);
+        for (int i = 0; i < 6; i++) Calls.first(y, "doc(" + "par ".repeat(23) + ")");
+        Calls.first(y, "doc(par par par par par)");
+        for (int kind = 1; kind <= 3; kind++) C.due("the last number", y.settle(149, kind, 6), true);
+        C.due("settle(150, ..)", y.settle(150, 1, 6), false);
+        C.due("the first number", y.settle(0, 3, 6), true);
+        C.due("settled", y.count(5), 4);
+        int c = edit(y, 6, "m149 148 0", "m147 146 0", "r149x");
+        int d = edit(y, 6, "m149 145 0", "m147 145 0", "r149y");
+        refused("the last numbers", y, y.merge(c, d), "2149 3147 3149");
+        y.settle(149, 3, c);
+        y.settle(149, 2, d);
+        y.settle(147, 3, d);
+        stands("the last numbers, settled", y, y.merge(c, d), "doc(par(par) par par(par{y}))");
+    }
+
+    /** With 12 editions nothing is tried. */
+    private static void full() {
+        TreeMerge x = Calls.with(PARS);
+        Calls.first(x, "doc(par{a} par{b})");
+        int a = edit(x, 0, "r1x");
+        int b = edit(x, a, "r1y");
+        int c = edit(x, 0, "r2y");
+        int d = edit(x, 0, "r2z");
+        refused("told", x, x.merge(c, d), "2002");
+        while (x.count(1) < 12) edit(x, 0);
+        C.due("merge", x.merge(a, c), -1);
+        C.due("carry", x.carry(a, c), -1);
+        C.due("carry to the last one", x.carry(a, 11), -1);
+        C.due("back", x.back(a, b), -1);
+        C.due("the quarrels told are the old ones", Calls.quarrels(x), "2002");
+        C.due("12", x.count(1), 12);
+    }
+
     private static void goneMoved() {
         TreeMerge x = Calls.with(PARS);
         // doc 0, par{a} 1, par{b} 2, par{c} 3
@@ -407,7 +500,11 @@ public final class MergeTest {
         words();
         settling();
         gone();
+        goneLed();
         goneMoved();
+        apart();
+        unsettling();
+        full();
         parents();
         orders();
         ordersUnder();

@@ -214,7 +214,48 @@ public final class ModelTest {
         }
     }
 
+    int wild() {
+        int[] far = {Integer.MIN_VALUE, Integer.MAX_VALUE, -2, -1, 11, 12, 13, 99, 100, 101, 149, 150, 500, 1 << 30};
+        return r.nextInt(3) == 0 ? far[r.nextInt(far.length)] : r.nextInt(14) - 1;
+    }
+
+    /** Any call with any arguments. */
+    void storm() {
+        int a = wild();
+        int b = wild();
+        int c = wild();
+        switch (r.nextInt(26)) {
+            case 0: x.end(a); break;
+            case 1: x.match(a, b); break;
+            case 2: x.next(a); break;
+            case 3: x.begin(a); break;
+            case 4: x.put(a, b, c, r.nextBoolean() ? 'a' : r.nextLong()); break;
+            case 5: x.take(a); break;
+            case 6: x.move(a, b, c); break;
+            case 7: x.rename(a, r.nextBoolean() ? b : r.nextLong()); break;
+            case 8: x.base(a, b); break;
+            case 9: x.merge(a, b); break;
+            case 10: x.carry(a, b); break;
+            case 11: x.back(a, b); break;
+            case 12: x.quarrel(a); break;
+            case 13: x.settle(a, b, c); break;
+            case 14: x.node(a, b); break;
+            case 15: x.of(a, b, c); break;
+            case 16: x.word(a, b); break;
+            case 17: x.writer(a); break;
+            case 18: x.name(a); break;
+            case 19: x.same(a, b); break;
+            case 20: x.print(a, b); break;
+            case 21: x.parent(a, b); break;
+            case 22: x.from(a, b); break;
+            case 23: x.count(a); break;
+            case 24: x.fault(r.nextBoolean()); break;
+            default: x.first(); x.drop(); x.close(); x.breaks();
+        }
+    }
+
     void step() {
+        for (int times = r.nextInt(4); times > 0; times--) storm();
         switch (r.nextInt(22)) {
             case 0: x.first(); sayTree(); if (r.nextInt(3) == 0) x.first(); break;
             case 1:
@@ -314,6 +355,7 @@ public final class ModelTest {
 
     void run() {
         String grammar = pick(GRAMMARS);
+        for (int times = r.nextInt(20); times > 0; times--) storm();
         for (int times = r.nextInt(3); times > 0; times--) {
             x.say(broken(grammar));
             x.fault(false);

@@ -86,15 +86,18 @@ public final class TellTest {
             C.due("writer(" + far + ")", x.writer(far), -1);
         }
         C.due("writer(-1)", x.writer(-1), -1);
+        C.due("writer(0)", x.writer(0), 0);
         C.due("writer(7)", x.writer(7), 0);
         C.due("writer(8)", x.writer(8), -1);
         x.begin(0);
         x.rename(1, 'g');
         x.rename(3, 0);
+        x.rename(0, '0');
         C.due("the draft's word", x.word(12, 1), 'g');
         C.due("the edition's is as it was", x.word(0, 1), 'h');
         C.due("close", x.close(), 1);
         C.due("written there", x.of(1, 1, 5), 1);
+        C.due("the outermost's, too", x.of(1, 0, 5), 1);
         C.due("no word, written there", x.of(1, 3, 5), 1);
         C.due("as before", x.of(1, 4, 5), 0);
         x.begin(1);
@@ -102,6 +105,7 @@ public final class TellTest {
         C.due("close", x.close(), 2);
         C.due("the old word again is new", x.of(2, 1, 5), 2);
         C.due("over two editions", x.of(2, 3, 5), 1);
+        C.due("the outermost's over two editions", x.of(2, 0, 5), 1);
         x.begin(0);
         x.rename(1, 'g');
         C.due("close", x.close(), 3);
@@ -153,6 +157,7 @@ public final class TellTest {
         C.due("the draft isn't printed", x.print(12, -1), -1);
         C.due("alone", Calls.first(x, "doc"), 1);
         C.due("printed", Calls.printed(x, 1), "doc");
+        C.due("behind a name", x.print(1, 3), -1);
         C.due("alone with a word", Calls.first(x, " doc {0} "), 2);
         C.due("printed", Calls.printed(x, 2), "doc{0}");
         C.due("closing twice", Calls.first(x, "doc(par(par(par)))"), 3);

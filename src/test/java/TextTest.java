@@ -79,6 +79,9 @@ public final class TextTest {
         grammarFault("a leaf ; ;", 9);
         grammarFault("a leaf ; 1", 9);
         grammarFault("a leaf ; \t", 9);
+        grammarFault("a xeaf ;", 2);
+        grammarFault("a lea ;", 2);
+        grammarFault("a sex a ;", 2);
         grammarFault("leaf leaf ;", 0);
         grammarFault("set leaf ;", 0);
         grammarFault("a set ;", 6);
@@ -118,6 +121,8 @@ public final class TextTest {
         grammarFault("a=" + times("a*", 248) + ";", -1);
         grammarFault("a=" + times("a ", 248) + "a;", -1);
         grammarFault("a=" + times("a ", 249), 500);
+        grammarFault("a=" + times("a ", 248) + "aa", 500);
+        grammarFault("a=" + times("a ", 247) + "a{aa", 497);
         String longName = times("x", 490);
         grammarFault(longName + " leaf;", -1);
     }
@@ -176,6 +181,16 @@ public final class TextTest {
         treeFault("doc(" + times("par ", 24) + ")", 4 + 23 * 4);
         treeFault("doc(" + times("par ", 23) + "{", 4 + 23 * 4 + 1);
         treeFault("doc(" + times("par ", 22) + "par(par", 4 + 22 * 4 + 4);
+        treeFault(times(" ", 497) + "doc", -1);
+        treeFault(times(" ", 494) + "doc{ab", 500);
+        treeFault(times(" ", 494) + "doc{a}", -1);
+        TreeMerge y = Calls.with("doc = par* ; par = par* ;");
+        Calls.say(y, "docpar");
+        y.end(3);
+        C.due("what is cut off is no more there", y.fault(true), -1);
+        Calls.say(y, "doc{a}");
+        y.end(5);
+        C.due("nor is what would end a word", y.fault(true), 5);
         TreeMerge x = new TreeMerge();
         Calls.say(x, "doc");
         C.due("without a grammar no name is of a kind", x.fault(true), 0);
