@@ -1151,7 +1151,7 @@ public final class TreeMerge {
             exact = a.size <= MAX_EXACT && b.size <= MAX_EXACT;
             if (exact) {
                 cost = 2 * (a.size + b.size);
-                search(1, pairCost(0, 0));
+                search(1, pairCost(0, 0), b.size - 1);
                 takeBest();
             } else {
                 for (int round = 1; round <= 4; round++) {
@@ -1178,29 +1178,28 @@ public final class TreeMerge {
 
         /**
          * Tries the partners of a's i-th node, the earliest first and none last: so the first of the ways
-         * with the least cost is met first, and only a lesser cost replaces it. i is at most MAX_EXACT.
+         * with the least cost is met first, and only a lesser cost replaces it. What more nodes are left in one
+         * tree than in the other can't be paired any more. i, the depth, is at most MAX_EXACT.
          */
-        private void search(int i, int sofar) {
-            if (sofar >= cost) {
+        private void search(int i, int sofar, int left) {
+            int least = sofar + 2 * Math.abs(left - (a.size - i));
+            if (least >= cost) {
                 return;
             }
             if (i >= a.size || i >= MAX_EXACT) {
-                int sum = sofar + 2 * (b.size - pairs());
-                if (sum < cost) {
-                    cost = sum;
-                    System.arraycopy(toB, 0, best, 0, MAX_STANDING);
-                }
+                cost = least;
+                System.arraycopy(toB, 0, best, 0, MAX_STANDING);
                 return;
             }
             for (int j = 1; j < b.size; j++) {
                 if (toA[j] == NONE && a.kinds[i] == b.kinds[j]) {
                     link(i, j);
-                    search(i + 1, sofar + pairCost(i, j));
+                    search(i + 1, sofar + pairCost(i, j), left - 1);
                     toB[i] = NONE;
                     toA[j] = NONE;
                 }
             }
-            search(i + 1, sofar + 2);
+            search(i + 1, sofar + 2, left);
         }
 
         private void takeBest() {

@@ -58,6 +58,7 @@ public final class DraftTest {
         C.due("a negative number", x.put(0, 0, 1, -1), -1);
         C.due("a blank", x.put(0, 0, 1, Calls.word("a b")), -1);
         C.due("nothing came", x.count(2), 7);
+        C.due("nothing changed", children(x, 0) + ", " + children(x, 1) + ", " + children(x, 4), "1 3 4, 2, 5 6");
         C.due("place 3", x.put(0, 3, 1, Calls.word("z")), 7);
         C.due("place 0", x.put(0, 0, 1, 0), 8);
         C.due("place 2", x.put(0, 2, 1, Calls.word("abcdefgh")), 9);
@@ -95,6 +96,7 @@ public final class DraftTest {
         }
         x.take(149);
         C.due("150 came", x.put(0, 0, 1, 0), -1);
+        C.due("what is refused changes nothing", x.of(12, 0, 3), 22);
         C.due("numbers", x.count(2), 150);
         C.due("drop() gives no numbers back", x.drop(), true);
         C.due("numbers", x.count(2), 150);

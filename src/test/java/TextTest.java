@@ -247,6 +247,8 @@ public final class TextTest {
         breaks("d = a ? b ; a leaf ; b leaf ;", "d(b)", -1);
         breaks("d = a b ; a leaf ; b leaf ;", "d(b a)", 0);
         breaks("d = a b ; a leaf ; b leaf ;", "d(a b)", -1);
+        breaks("d set a ; b = c* ; a leaf ; c leaf ;", "d(c)", 0);
+        breaks("d = a? ; b = a* ; a leaf ;", "d(a a)", 0);
         breaks("d set d ;", "d(d(d d{a}) d{a}(d))", -1);
         // d's children in order: d, then d{a}; the third node is the outermost's second child
         breaks("d set d ;", "d(d{a}(d d) d)", 2);
