@@ -10,15 +10,8 @@ public final class DraftTest {
         return x;
     }
 
-    /** The children of a node of the draft, by their places. */
     private static String children(TreeMerge x, int node) {
-        String s = "";
-        for (int place = 0; place < x.of(12, node, 3); place++) {
-            for (int n = 0; n < x.count(2); n++) {
-                if (x.of(12, n, 1) == node && x.of(12, n, 2) == place) s += (place == 0 ? "" : " ") + n;
-            }
-        }
-        return s;
+        return Calls.children(x, 12, node);
     }
 
     private static void beginning() {

@@ -4,41 +4,8 @@ public final class MergeTest {
     private static final String G = "doc = par* tags? ; par = par* ; tags set tag par ; tag leaf ;";
     private static final String PARS = "doc = par* ; par = par* ;";
 
-    /**
-     * A draft on an edition, changed as said and closed: "r3a" node 3 renamed a, "t3" taken, "m3 1 0" moved under 1
-     * at place 0, "p1 0 2x" put under 1 at place 0 of kind 2 with the word x.
-     */
     private static int edit(TreeMerge x, int edition, String... changes) {
-        boolean done = x.begin(edition);
-        for (String c : changes) {
-            String[] part = c.substring(1).split(" ");
-            switch (c.charAt(0)) {
-                case 'r':
-                    int letters = part[0].replaceAll("[0-9]", "").length();
-                    String word = part[0].substring(part[0].length() - letters);
-                    done &= x.rename(number(part[0].substring(0, part[0].length() - letters)), Calls.word(word));
-                    break;
-                case 't':
-                    done &= x.take(number(part[0]));
-                    break;
-                case 'm':
-                    done &= x.move(number(part[0]), number(part[1]), number(part[2]));
-                    break;
-                default:
-                    done &= x.put(number(part[0]), number(part[1]), part[2].charAt(0) - '0',
-                            Calls.word(part[2].substring(1))) >= 0;
-            }
-        }
-        int come = x.close();
-        if (!done || come < 0) {
-            System.out.println("could not be edited: " + String.join(", ", changes));
-            System.exit(1);
-        }
-        return come;
-    }
-
-    private static int number(String s) {
-        return Integer.parseInt(s);
+        return Calls.edit(x, edition, changes);
     }
 
     private static void refused(String about, TreeMerge x, int got, String quarrels) {
