@@ -77,6 +77,9 @@ public final class BoundsMergeTest {
         edit(x, 1, "r2m");
         C.due("in both, not in the base", told(x, x.carry(1, 2)), "2002");
         C.due("the same word in both", told(x, x.carry(1, edit(x, 1, "r1k"))), "doc(par{n} par{k})");
+        C.due("none in the one to which it is carried", told(x, x.carry(1, edit(x, 1, "r2"))), "2002");
+        edit(x, 0, "p0 0 1");
+        C.due("none in the one that is carried", told(x, x.carry(6, edit(x, 6, "r3k"))), "2003");
         C.by("3 the same of parents.");
         merged(PARS, NEST, "m4 3 0", "m4 2 0", "3004");
         merged(PARS, NEST, "m4 3 0", "m4 3 0", "doc(par{a}(par{b}(par{c}(par{d}))) par{e})");
@@ -207,6 +210,10 @@ public final class BoundsMergeTest {
         TreeMerge w = merged(PARS, "doc(par{a} par{b} par{c} par{d})", "m3 4 0, m2 3 0, m1 2 0, p1 0 1n, p5 0 1m", "t4", "1004");
         settled(w, 4, 1, 2, "doc");
         settled(w, 4, 1, 1, "doc(par{d}(par{c}(par{b}(par{a}(par{n}(par{m}))))))");
+        TreeMerge t = merged("doc = tags* par* ; par = tags* par* ; tags set tag ; tag leaf ;", "doc(tags par{a} par{b})",
+                "m2 3 0, m1 2 0, p1 0 3t", "t3, p1 0 3t", "1003");
+        settled(t, 3, 1, 1, "7001");
+        settled(t, 3, 1, 2, "doc");
         TreeMerge v = merged(PARS, NEST, "t3, t2, t1", "r3x, m4 2 0", "1001 1002 1003");
         settled(v, 1, 1, 2, "1002 1003");
         settled(v, 3, 1, 2, "1002");

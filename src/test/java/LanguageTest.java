@@ -47,6 +47,9 @@ public final class LanguageTest {
         for (Method m : TreeMerge.class.getDeclaredMethods()) {
             if (Modifier.isPrivate(m.getModifiers())) C.due(m.getName() + " is taken", names.contains(m.getName()), false);
         }
+        for (Class<?> inside : TreeMerge.class.getDeclaredClasses()) {
+            for (Method m : inside.getDeclaredMethods()) C.due(m.getName() + " is taken", names.contains(m.getName()), false);
+        }
         for (Constructor<?> c : TreeMerge.class.getDeclaredConstructors()) {
             C.due("the constructor", Modifier.isPublic(c.getModifiers()) && c.getParameterCount() == 0, true);
         }
