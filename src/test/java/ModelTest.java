@@ -319,6 +319,42 @@ public final class ModelTest {
         return come < 0 ? e : come;
     }
 
+    /** A draft in which children of one node change places, so that sides come to say unlike orders. */
+    int shuffle(int e) {
+        x.drop();
+        if (!x.begin(e)) return e;
+        List<Model.Node> all = x.m.draft.all();
+        Model.Node most = all.get(0);
+        for (Model.Node n : all) {
+            if (n.children.size() > most.children.size()) most = n;
+        }
+        Model.Node into = r.nextInt(4) == 0 ? all.get(r.nextInt(all.size())) : most;
+        for (int times = 1 + r.nextInt(3); times > 0; times--) {
+            List<Model.Node> from = r.nextInt(4) == 0 ? all : most.children;
+            if (from.isEmpty()) continue;
+            int node = from.get(r.nextInt(from.size())).id;
+            if (x.move(node, into.id, r.nextInt(into.children.size() + 1))) stat("shuffled");
+        }
+        if (r.nextInt(3) == 0) changeDraft();
+        int come = x.close();
+        return come < 0 ? e : come;
+    }
+
+    /** One edition shuffled twice, and the two merged and carried; once more from there. */
+    void disorder() {
+        int root = r.nextInt(x.m.editions.size());
+        for (int i = 0; i < 2; i++) {
+            int a = shuffle(root);
+            int b = shuffle(root);
+            int m = mergeSettling(a, b);
+            x.carry(b, a);
+            tellQuarrels();
+            x.back(a, m);
+            tellQuarrels();
+            if (m >= 0) root = m;
+        }
+    }
+
     int mergeSettling(int a, int b) {
         int e = x.merge(a, b);
         tellQuarrels();
@@ -368,7 +404,9 @@ public final class ModelTest {
         if (x.m.grammar.isEmpty()) return;
         x.say(anyTree());
         x.first();
-        if (r.nextBoolean() && !x.m.editions.isEmpty()) {
+        int way = x.m.editions.isEmpty() ? 0 : r.nextInt(4);
+        if (way == 1) disorder();
+        if (way >= 2) {
             cross();
             cross();
         }
